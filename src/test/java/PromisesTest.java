@@ -158,6 +158,19 @@ public final class PromisesTest {
         }
         Due.is("6 too much", x.feed(1, 1, 1, 1, 1), -1);
         Due.is("6 stays", x.count(8), 260);
+        Due.is("7 n", x.law(241), -1);
+        Due.is("8 n", x.bill(121), -1);
+        Due.is("9 n", x.code(0, 7), -1);
+        Due.is("20 n", x.cut(13, 0, 0), -1);
+        Due.is("21 n", x.heir(13, 0, 0), -1);
+        Due.is("22 n", x.busy(11, 0), -1);
+        Due.is("23 n", x.cheapest(6, 1, 100), -1);
+        Due.is("24 n", x.told(17, 0), -1);
+        Due.is("25 k", x.epitaph(31, 1, true, 0), -1);
+        Due.is("25 m", x.epitaph(1, 31, true, 0), -1);
+        Due.is("26 n", x.dialled(13, 0), -1);
+        Due.is("32 n", x.check(17), -2);
+        Due.is("6 all stays", x.count(8), 260);
         x.law(1);
         Due.is("7 empty then", x.count(8), 0);
         x.feed(0x61626364, 0, 0, 0, 0x7fffffff);
@@ -612,6 +625,13 @@ public final class PromisesTest {
         y.trunk(3, 4, 1);
         Due.is("17 narrow", y.atOnce(0, 4), 1);
         Due.is("18 one", y.stops(0, 4), 1);
+        DeadLines z = new DeadLines();
+        int[][] ways = {{0, 1}, {1, 2}, {2, 3}, {3, 7}, {0, 5}, {5, 6}, {6, 4}, {4, 7}, {1, 4}};
+        for (int[] way : ways) {
+            z.trunk(way[0], way[1], 2);
+        }
+        Due.is("17 the shortest way stops both others", z.atOnce(0, 7), 4);
+        Due.is("18 the shortest way stops both others", z.stops(0, 7), 2);
         Due.is("17 same", y.atOnce(1, 1), -1);
         Due.is("17 no such", y.atOnce(1, 8), -1);
         Due.is("18 same", y.stops(1, 1), -1);
