@@ -28,9 +28,11 @@ public final class BoundsTest {
         lettersOfPence();
         lettersOfTheCall();
         dividedByNothing();
+        asMuchAsMatters();
         machineNumbers();
         lostOnes();
         freeAtHisTurn();
+        oneBehindTheOther();
         places();
         draws();
         Due.end();
@@ -460,6 +462,7 @@ public final class BoundsTest {
         Due.is("11 those connected", x.tried(1, 3), 1);
         Due.is("11 only once", x.tried(240, 3), 1);
         Due.is("11 its call has ended", x.tried(1, 4), 0);
+        Due.is("11 that is not lost", x.tried(1, 1), 0);
         Due.is("11 charged ahead", x.tried(1, 100), 3);
         x.minutes(1);
         Due.is("10 cut off", x.count(4), 6);
@@ -596,6 +599,46 @@ public final class BoundsTest {
         Due.is("7 the next l", z.callIs(0, 3), 4);
     }
 
+    /** All of parts and tests up to four, each 1, 0 or refused, asked from the left as long as it matters. */
+    private static void asMuchAsMatters() {
+        String[] tests = {"1=2", "1=1", "1/0=1"};
+        for (int many = 2; many <= 4; many++) {
+            int all = (int) Math.pow(3, many);
+            for (int row = 0; row < all; row++) {
+                StringBuilder and = new StringBuilder();
+                StringBuilder or = new StringBuilder();
+                // 0, 1, or 2 if it was refused.
+                int isAnd = 1;
+                int isOr = 0;
+                for (int i = 0, rest = row; i < many; i++, rest /= 3) {
+                    and.append(i == 0 ? "" : "&").append(tests[rest % 3]);
+                    or.append(i == 0 ? "" : "|").append(tests[rest % 3]);
+                    isAnd = isAnd == 1 ? rest % 3 : isAnd;
+                    isOr = isOr == 0 ? rest % 3 : isOr;
+                }
+                within(and.toString(), isAnd);
+                within(or.toString(), isOr);
+            }
+        }
+    }
+
+    private static void within(String text, int is) {
+        DeadLines x = Cases.people(1);
+        // Ahead of it another rule, so that it does not stand where the law begins.
+        String head = "v(1=2);x(";
+        String[] wraps = {"%", "!(%)", "(%)&1=1", "(%)&1=2", "(%)|1=1", "(%)|1=2", "1=2|(%)", "1=1&(%)", "1=1|(%)",
+            "1=2&(%)", "(%)&1=1&1=1", "(%)|1=2|1=2"};
+        boolean[] ifRefused = {false, false, false, false, false, false, false, false, true, false, false, false};
+        boolean[] ifHolds = {true, false, true, false, true, true, true, true, true, false, true, true};
+        boolean[] ifNot = {false, true, false, false, true, false, false, false, true, false, false, false};
+        for (int i = 0; i < wraps.length; i++) {
+            String whole = head + wraps[i].replace("%", text) + ")";
+            boolean due = is == 2 ? ifRefused[i] : is == 1 ? ifHolds[i] : ifNot[i];
+            Due.is("7 rules of " + whole, Due.law(x, whole), 2);
+            Due.is("7 " + whole, x.tried(1, 3), due ? 1 : 0);
+        }
+    }
+
     private static void machineNumbers() {
         String least = "[32768*65536]";
         String most = "[32768*65536-1]";
@@ -683,6 +726,37 @@ public final class BoundsTest {
         Due.is("10 two draws", y.count(9), Cases.drawn(1, 2));
         y.minutes(1);
         Due.is("10 none draws in a call", y.count(9), Cases.drawn(1, 2));
+    }
+
+    /** In a minute: first the charges, then the ringing, then the cutting off; then it is one more. */
+    private static void oneBehindTheOther() {
+        DeadLines x = Cases.people(2);
+        Due.law(x, "r10(s=0&o=t);w1(o=t);l1(o=t);v(o>t);x(o>t)");
+        for (int i = 0; i < 9; i++) {
+            Due.is("10 he rings by what he owes behind the charge", x.minutes(1), 1);
+            Due.is("10 as much as minutes ahead of this one", x.subscriberIs(0, 4), i);
+        }
+        Due.is("10 nobody was cut off", x.count(4), 0);
+        DeadLines y = Cases.people(2);
+        Due.bill(y, "a*");
+        y.fund(200);
+        Due.law(y, "r10(s=0);w1(1=1);l9(1=1);x(s=1&f<2)");
+        y.minutes(1);
+        Due.is("10 the fund as it was", y.count(4), 0);
+        y.minutes(1);
+        Due.is("10 less by the charge of this minute", y.count(4), 2);
+        Due.is("10 the fund", y.count(1), 199);
+        // Whom 0 has rung ahead in this minute is not free for 1, whatever 0's law was.
+        DeadLines z = Cases.people(3);
+        Due.law(z, "r10(s<2);w2(1=1);l3-s(1=1)");
+        Due.is("10 one", z.minutes(1), 1);
+        Due.is("10 the lower one", z.callIs(0, 0), 0);
+        Due.is("10 the higher one was lost", z.subscriberIs(1, 6), 0);
+        Due.law(z, "r10(s=1);w2(1=1);l3(1=1);x(s=0&t=3)");
+        Due.is("10 not while the other talks", z.minutes(2), 0);
+        Due.is("10 in the minute in which it ends", z.minutes(1), 1);
+        Due.is("10 charged to the end", z.subscriberIs(0, 4), 3);
+        Due.is("10 then cut off", z.count(4), 1);
     }
 
     /** Sixteen subscribers talk in eight calls at most. */

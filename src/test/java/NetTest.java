@@ -1,6 +1,10 @@
+import java.util.Random;
+
 /** Trunks at their most and at none: circuits that are free, routes, how many at once, stops, the middle; kept, undone. */
 public final class NetTest {
     private static final int NONE = -1;
+    private static final String ALL_CUT = "a!;b!;c!;d!;e!;f!;g!;h!;i!;j!;k!;l!;m!;n!;o!;p!";
+    private static final String ALL_BACK = ALL_CUT.replace('!', '?');
 
     private NetTest() {
     }
@@ -15,8 +19,10 @@ public final class NetTest {
         likeRoutesOfACall();
         atOnce();
         stops();
+        flowsBesideAllCuts();
         middles();
         keptAndUndone();
+        allPlacesUndone();
         notKept();
         keptLast();
         Due.end();
@@ -225,6 +231,52 @@ public final class NetTest {
         Due.is("17 nine through it", y.atOnce(0, 7), 3);
     }
 
+    /** Of all ways to part two exchanges the one with the fewest circuits, and the one with the fewest trunks. */
+    private static void flowsBesideAllCuts() {
+        Random draw = new Random(18);
+        for (int run = 0; run < 400; run++) {
+            int[][] circuits = new int[8][8];
+            DeadLines x = new DeadLines();
+            int many = 4 + draw.nextInt(20);
+            int most = 1 + draw.nextInt(9);
+            for (int i = 0; i < many; i++) {
+                int e = draw.nextInt(8);
+                int q = draw.nextInt(8);
+                if (e != q) {
+                    int laid = draw.nextInt(most + 1);
+                    circuits[e][q] = laid;
+                    circuits[q][e] = laid;
+                    x.trunk(e, q, laid);
+                }
+            }
+            for (int e = 0; e < 8; e++) {
+                for (int q = 0; q < 8; q++) {
+                    if (e != q) {
+                        Due.is("17 beside all cuts", x.atOnce(e, q), leastCut(circuits, e, q, false));
+                        Due.is("18 beside all cuts", x.stops(e, q), leastCut(circuits, e, q, true));
+                    }
+                }
+            }
+        }
+    }
+
+    private static int leastCut(int[][] circuits, int e, int q, boolean trunksAlone) {
+        int least = Integer.MAX_VALUE;
+        for (int side = 0; side < 256; side++) {
+            if ((side >> e & 1) == 1 && (side >> q & 1) == 0) {
+                int sum = 0;
+                for (int a = 0; a < 8; a++) {
+                    for (int b = 0; b < 8; b++) {
+                        boolean parted = (side >> a & 1) == 1 && (side >> b & 1) == 0;
+                        sum += parted ? trunksAlone ? Math.min(1, circuits[a][b]) : circuits[a][b] : 0;
+                    }
+                }
+                least = Math.min(least, sum);
+            }
+        }
+        return least;
+    }
+
     private static void middles() {
         DeadLines x = new DeadLines();
         for (int e = 7; e > 0; e--) {
@@ -286,6 +338,60 @@ public final class NetTest {
         Due.is("31 its circuits", x.circuits(0, 1, 1) + x.circuits(1, 2, 1), 2);
         x.minutes(9);
         Due.is("31 it ends in its time", x.subscriberIs(0, 4), 27);
+    }
+
+    /** Other calls stand at the same places when those that were kept come back. */
+    private static void allPlacesUndone() {
+        DeadLines x = new DeadLines();
+        for (int e = 0; e < 8; e++) {
+            for (int q = 0; q < e; q++) {
+                x.trunk(e, q, 9);
+            }
+        }
+        for (int s = 0; s < 16; s++) {
+            x.subscriber(s, s % 8, true);
+        }
+        Due.law(x, "r10(s<8);w15-s(1=1);l9-s(1=1);v(s=3|s=6)");
+        Due.is("10 eight", x.minutes(1), 8);
+        x.keep();
+        Due.is("8 all of them end", Due.bill(x, ALL_CUT), 16);
+        Due.is("8 none is left", x.count(6), 0);
+        Due.bill(x, ALL_BACK);
+        Due.law(x, "r10(s>7);ws-7(1=1);l50(1=1)");
+        Due.is("10 seven others", x.minutes(1), 7);
+        Due.is("31 undone", x.undo(), true);
+        allPlacesAreThere(x);
+        Due.law(x, "v(1=1)");
+        x.minutes(4);
+        Due.is("10 some have ended", x.count(6), 5);
+        Due.is("31 undone", x.undo(), true);
+        allPlacesAreThere(x);
+        x.minutes(9);
+        Due.is("10 all have ended", x.count(6), 0);
+        for (int e = 0; e < 8; e++) {
+            for (int q = 0; q < e; q++) {
+                Due.is("14 all are free", x.circuits(e, q, 1), 9);
+            }
+        }
+    }
+
+    private static void allPlacesAreThere(DeadLines x) {
+        for (int i = 0; i < 8; i++) {
+            int[] due = {i, 15 - i, i == 3 || i == 6 ? 15 - i : i, 9 - i, 1};
+            for (int what = 0; what < 5; what++) {
+                Due.is("31 place " + i, x.callIs(i, what), due[what]);
+            }
+        }
+        for (int s = 0; s < 16; s++) {
+            Due.is("31 talks", x.subscriberIs(s, 5), 15 - s);
+            Due.is("31 has rung", x.subscriberIs(s, 6), s < 8 ? 1 : 0);
+            Due.is("31 was rung", x.subscriberIs(s, 7), s < 8 ? 0 : 1);
+        }
+        for (int e = 0; e < 8; e++) {
+            for (int q = 0; q < e; q++) {
+                Due.is("31 circuits", x.circuits(e, q, 1), e + q == 7 ? 7 : 9);
+            }
+        }
     }
 
     /** Trunks, rates, the law, codes and the tape are not kept. */

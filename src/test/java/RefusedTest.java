@@ -267,6 +267,12 @@ public final class RefusedTest {
         Twins.emptiesTape("22 most at once", 260, x -> x.busy(10, 0), 9);
         Twins.emptiesTape("22 not later", 260, x -> x.busy(10, 100), 9);
         Twins.readsInVain("22 of no minutes", "\1\0", x -> x.busy(1, 120), -2);
+        DeadLines y = new DeadLines();
+        Due.put(y, 1, 0);
+        for (int what : new int[] {-1, 2, 99, 121}) {
+            Due.is("22 no such one, though it has no minutes", y.busy(1, what), NONE);
+            Due.is("22 the tape stays", y.count(8), 20);
+        }
     }
 
     private static void cheapest() {

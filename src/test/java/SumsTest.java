@@ -116,6 +116,8 @@ public final class SumsTest {
         Due.is("22 when both talk", busy(1, 0, 6, 5, 5), 5);
         Due.is("22 the first of like ones", busy(1, 9, 2, 0, 2, 9, 2, 0, 2), 0);
         Due.is("22 told last, first in time", busy(1, 9, 2, 3, 2), 3);
+        Due.is("22 told first, first in time", busy(1, 3, 2, 9, 2), 3);
+        Due.is("22 twice two", busy(1, 3, 2, 9, 2, 4, 2, 9, 2), 4);
         Due.is("22 ten", busy(0, many(10, 255, 255)), 10);
         Due.is("22 when ten", busy(1, many(10, 255, 255)), 255);
         Due.is("22 at 0", busy(1, many(10, 0, 1)), 0);
@@ -146,6 +148,10 @@ public final class SumsTest {
         Due.is("22 as told the other way", busy(101, 0, 9, 0, 1), 2);
         Due.is("22 in the row of beginnings", busy(101, 1, 1, 0, 2), 1);
         Due.is("22 in the row of beginnings, too", busy(101, 1, 9, 0, 2), 1);
+        Due.is("22 each keeps its minutes", busy(100, 1, 9, 0, 1, 3, 1), 2);
+        Due.is("22 each keeps its minutes, too", busy(100, 1, 1, 0, 1, 3, 1), 1);
+        Due.is("22 told backwards", busy(100, 9, 1, 6, 3, 3, 3, 0, 3), 1);
+        Due.is("22 told backwards, one too long", busy(100, 9, 1, 6, 3, 3, 4, 0, 3), 2);
         // A later one waits behind one that waits.
         Due.is("22 waiting adds up", busy(104, 0, 4, 1, 4, 2, 4), 2);
         Due.is("22 and goes by", busy(106, 0, 4, 1, 4, 2, 4), 1);
