@@ -32,9 +32,11 @@ public final class LanguageTest {
     }
 
     public static void main(String[] args) throws IOException {
+        String source = Files.readString(Path.of("src/main/java/DeadLines.java"));
         face();
+        faceAsWritten(Files.readString(Path.of("../shared/DOC.md")), source);
         insideClasses();
-        source(Files.readString(Path.of("src/main/java/DeadLines.java")));
+        source(source);
         Due.end();
     }
 
@@ -75,6 +77,29 @@ public final class LanguageTest {
         no("the class is not final", !Modifier.isFinal(DeadLines.class.getModifiers()));
         Constructor<?>[] made = DeadLines.class.getDeclaredConstructors();
         no("constructors", made.length != 1 || !Modifier.isPublic(made[0].getModifiers()));
+    }
+
+    /** Each member that the document writes stands in the source with the same types and names, and no other. */
+    private static void faceAsWritten(String document, String source) {
+        Set<String> due = members(document.split("```java\n")[1].split("```")[0]);
+        Set<String> got = members(source);
+        Due.is("members that the document writes", due.size(), 35);
+        for (String member : due) {
+            no("the source lacks " + member, !got.contains(member));
+        }
+        for (String member : got) {
+            no("the document has no " + member, !due.contains(member));
+        }
+    }
+
+    private static Set<String> members(String text) {
+        Set<String> all = new TreeSet<>();
+        for (String row : text.split("\n")) {
+            if (row.strip().startsWith("public ")) {
+                all.add(row.strip().replaceAll("( \\{|;)$", ""));
+            }
+        }
+        return all;
     }
 
     private static void insideClasses() {
